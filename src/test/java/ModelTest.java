@@ -1,0 +1,167 @@
+import java.util.ArrayList;
+import java.util.List;
+import java.util.Map;
+
+/**
+ * Promises 1 to 10 together: many runs of at most 512 begins and steps, each compared with the model
+ * call by call, and the tree's shape looked at. Every sentence of the document must have
+ * been come to, but for two that are rare and have a test of their own (QueueTest, JoinTest).
+ */
+public final class ModelTest {
+    private static final String[] SENTENCES = {
+        "join begins: queue empty", "join begins: page is root", "join begins: with a page",
+        "join without a page", "lock: blocked", "lock: NODE", "lock: DEAD", "search: dead",
+        "search: low not below", "search: right", "find: not there", "find: there",
+        "below wanted: join", "below wanted: restart", "below wanted: no free page",
+        "below wanted: new root", "hold: dead", "hold: low not below", "hold: right",
+        "a dead page becomes free later", "put: there", "put: no free page", "put: in", "put: split",
+        "post: no free page", "post: in", "post: split", "split: post by path",
+        "split: post from root", "remove: not there", "remove: small root", "queue: already in it",
+        "join: page dead", "join: no child", "join: but one entry",
+        "join: page is last", "join: page is not last", "join: A locked", "join: B locked",
+        "join: A's HIGH", "join: B's HIGH", "join: one of two leaves", "join: one of two inner nodes",
+        "join: share 5 of leaves to the left", "join: share 5 of leaves to the right",
+        "join: share 6 of leaves to the left", "join: share 6 of leaves to the right",
+        "join: share 7 of leaves to the same", "join: share 8 of leaves to the same",
+        "join: share 5 of inner nodes to the left", "join: share 5 of inner nodes to the right",
+        "join: root dies", "join: P queued",
+        "dies: out of the queue", "dies: FREE", "dies: DEAD"
+    };
+    private static int wrong;
+
+    private long state;
+    private final Play play = new Play();
+    private final Model model;
+    private final int run;
+    private final List<String> calls = new ArrayList<>();
+    /** How this run likes its calls; chosen from its number. */
+    private final int keys;
+    private final int order;
+    private final int haste;
+    private final int[] weights;
+    private int nextKey;
+
+    private ModelTest(int run, Map<String, Integer> seen) {
+        this.run = run;
+        this.model = new Model(seen);
+        this.state = 88172645463325252L + 7919L * run;
+        this.keys = new int[] {12, 40, 200, 1000}[below(4)];
+        this.order = below(4);
+        this.haste = below(4);
+        this.weights = new int[][] {{1, 6, 1, 1}, {1, 4, 4, 3}, {1, 12, 0, 0}, {0, 3, 5, 1}}[below(4)];
+        this.nextKey = order == 1 ? keys - 1 : 0;
+    }
+
+    private int below(int bound) {
+        state ^= state << 13;
+        state ^= state >>> 7;
+        state ^= state << 17;
+        return (int) Math.floorMod(state, (long) bound);
+    }
+
+    private int key() {
+        if (order >= 2 || below(8) == 0) {
+            return below(keys);
+        }
+        int key = nextKey;
+        nextKey = Math.floorMod(nextKey + (order == 0 ? 1 : -1) * (1 + below(3)), keys);
+        return key;
+    }
+
+    private int operation(int call) {
+        int sum = 0;
+        // Runs that first grow and then shrink reach the full queue and the sinking root.
+        int[] w = order == 3 && call > 250 ? new int[] {0, 1, 8, run % 3} : weights;
+        for (int weight : w) {
+            sum += weight;
+        }
+        int drawn = below(sum);
+        for (int k = 0; k < 4; k++) {
+            drawn -= w[k];
+            if (drawn < 0) {
+                return k;
+            }
+        }
+        return 0;
+    }
+
+    private void go() {
+        int calm = 0;
+        int liked = 0;
+        for (int call = 0; call < 512 && wrong < 20; call++) {
+            if (calm == 0) {
+                liked = below(haste == 0 ? 1 : 4);
+                calm = 1 + below(1 + 6 * haste);
+            }
+            calm--;
+            int task = liked;
+            if (model.tasks[task].does.equals("IDLE")) {
+                begin(task, operation(call), key(), below(2000) - 1000);
+            } else {
+                step(task);
+            }
+            compare();
+        }
+    }
+
+    private void begin(int task, int operation, int key, int value) {
+        calls.add("begin(" + task + ", " + operation + ", " + key + ", " + value + ")");
+        play.begin(task, operation, key, value);
+        model.begin(task, operation, key, value);
+    }
+
+    private void step(int task) {
+        calls.add("step(" + task + ")");
+        due("step(" + task + ")", play.tree.step(task), model.step(task));
+        String want = model.tasks[task].finished == 0
+            ? "NoSuchElementException" : Integer.toString(model.tasks[task].answer);
+        String got = Check.outcome(() -> play.tree.answer(task));
+        if (!got.equals(want)) {
+            fault("answer(" + task + ") answered " + got + ", due is " + want);
+        }
+    }
+
+    private void compare() {
+        List<Integer> got = play.all();
+        List<Integer> want = model.all();
+        if (!got.equals(want)) {
+            fault("the face tells " + got + ", due is " + want);
+        }
+        String shape = Shape.fault(play);
+        if (!shape.isEmpty()) {
+            fault(shape);
+        }
+    }
+
+    private void due(String call, int got, int want) {
+        if (got != want) {
+            fault(call + " answered " + got + ", due is " + want);
+        }
+    }
+
+    private void fault(String text) {
+        wrong++;
+        System.out.println("run " + run + " after " + calls + ": " + text);
+    }
+
+    public static void main(String[] args) {
+        int runs = args.length > 0 ? Integer.parseInt(args[0]) : 1500;
+        Map<String, Integer> seen = Model.nothingSeen();
+        for (int run = 0; run < runs && wrong == 0; run++) {
+            new ModelTest(run, seen).go();
+        }
+        for (String sentence : SENTENCES) {
+            if (!seen.containsKey(sentence)) {
+                wrong++;
+                System.out.println("no run has come to: " + sentence);
+            }
+        }
+        if (args.length > 0) {
+            System.out.println(seen);
+        }
+        System.out.println(runs + " runs, " + wrong + " faults");
+        if (wrong != 0) {
+            System.exit(1);
+        }
+    }
+}
