@@ -5,7 +5,7 @@ import java.util.Map;
 /**
  * Promises 1 to 10 together: many runs of at most 512 begins and steps, each compared with the model
  * call by call, and the tree's shape looked at. Every sentence of the document must have
- * been come to, but for two that are rare and have a test of their own (QueueTest, JoinTest).
+ * been come to, but for two that are rare and have a test of their own (RemoveTest, JoinTest).
  */
 public final class ModelTest {
     private static final String[] SENTENCES = {

@@ -73,6 +73,14 @@ final class Play {
         return row;
     }
 
+    int freePages() {
+        int many = 0;
+        for (int page = 0; page < 24; page++) {
+            many += tree.page(page, 0) == 0 ? 1 : 0;
+        }
+        return many;
+    }
+
     /** The entries of a node, one after the other: key or bound, value or child. */
     int[] entries(int page) {
         int[] row = new int[2 * tree.page(page, 5)];
