@@ -289,8 +289,14 @@ public final class LinkTree {
         } else if (n.high < t.key) {
             t.phase = LOCK;
             outcome = goRight(t, n);
+        } else if (t.operation == PUT) {
+            outcome = put(t, n);
+        } else if (t.operation == REMOVE) {
+            outcome = remove(t, n);
+        } else if (t.operation == JOIN) {
+            outcome = join(t, n);
         } else {
-            outcome = change(t, n);
+            outcome = post(t, n);
         }
         if (outcome != BLOCKED) {
             n.locker = NONE;
@@ -318,15 +324,6 @@ public final class LinkTree {
             nodes[number].awaitNoMore(t.number);
         }
         return FINISHED;
-    }
-
-    private int change(Task t, Node n) {
-        switch (t.operation) {
-            case PUT: return put(t, n);
-            case REMOVE: return remove(t, n);
-            case JOIN: return join(t, n);
-            default: return post(t, n);
-        }
     }
 
     private int put(Task t, Node leaf) {
@@ -544,7 +541,7 @@ public final class LinkTree {
         /** The child for the key keeps what is up to the key, and the page gets what is above it. */
         void divideEntry(int key, int page) {
             int at = firstNotBelow(key);
-            if (at < count) {
+            if (at < count && count < keys.length) {
                 insert(at, key, seconds[at]);
                 seconds[at + 1] = page;
             }
@@ -641,7 +638,7 @@ public final class LinkTree {
         int count;
 
         void add(int page) {
-            if (count < QUEUE_LENGTH && indexOf(page) == NONE) {
+            if (count < QUEUE_LENGTH && !has(page)) {
                 pages[count] = page;
                 count++;
             }
@@ -652,31 +649,28 @@ public final class LinkTree {
                 return NONE;
             }
             int first = pages[0];
-            removeAt(0);
+            drop(first);
             return first;
         }
 
         void drop(int page) {
-            int at = indexOf(page);
-            if (at != NONE) {
-                removeAt(at);
-            }
-        }
-
-        private int indexOf(int page) {
+            int kept = 0;
             for (int k = 0; k < count; k++) {
-                if (pages[k] == page) {
-                    return k;
+                if (pages[k] != page) {
+                    pages[kept] = pages[k];
+                    kept++;
                 }
             }
-            return NONE;
+            count = kept;
         }
 
-        private void removeAt(int at) {
-            count--;
-            for (int k = at; k < count; k++) {
-                pages[k] = pages[k + 1];
+        private boolean has(int page) {
+            for (int k = 0; k < count; k++) {
+                if (pages[k] == page) {
+                    return true;
+                }
             }
+            return false;
         }
     }
 }

@@ -8,6 +8,7 @@ public final class PutTest {
         splitAmongKeys();
         splitOfInnerNode();
         postByPath();
+        postWithoutPathAfterRestart();
         postBesideUnpostedPage();
         postBesideUnpostedPageFirst();
         CHECK.end();
@@ -109,6 +110,22 @@ public final class PutTest {
         CHECK.row("page 6", play.entries(6), 120, 4, 145, 5, 999, 8);
         CHECK.row("counts", play.counts(0), 10, 0, 2, 0);
         CHECK.due("task 1 ends", play.end(1), -1);
+    }
+
+    /** A restart forgets the path, so the post begins at the root. */
+    private static void postWithoutPathAfterRestart() {
+        Play play = new Play();
+        play.putAll(10, 20, 30, 40, 50);
+        play.remove(10);
+        play.remove(20);
+        play.begin(0, Play.PUT, 45, 450);
+        play.steps(0, 1);
+        play.join();
+        play.putAll(60);
+        CHECK.row("restart, then a split", play.steps(0, 4), 0, 0, 0, 3);
+        CHECK.row("from the root, not from page 2", play.task(0), 0, Play.SEARCH, 0, 45, 1);
+        CHECK.due("the PUT ends", play.end(0), -1);
+        CHECK.row("one restart", play.counts(0), 9, 0, 0, 1);
     }
 
     /** The second split is posted before the first one. */
