@@ -1,4 +1,4 @@
-import java.util.NoSuchElementException;
+import java.util.List;
 
 /** Counts answers that are not due, prints each of them, and ends the test with exit code 1 if there was one. */
 final class Check {
@@ -9,12 +9,41 @@ final class Check {
 
     private int wrong;
     private int looked;
+    private int sentences;
+    private int lookedBefore;
+    private String sentence = "";
+
+    /** The words of the document that the next answers are due by. */
+    void says(String words) {
+        endSentence();
+        sentence = words;
+        sentences++;
+        lookedBefore = looked;
+    }
+
+    private void endSentence() {
+        if (!sentence.isEmpty() && looked == lookedBefore) {
+            fault("no answer was looked at");
+        }
+    }
+
+    private void fault(String text) {
+        wrong++;
+        System.out.println(sentence.isEmpty() ? text : "\"" + sentence + "\": " + text);
+    }
 
     void due(String what, long got, long want) {
         looked++;
         if (got != want) {
-            wrong++;
-            System.out.println(what + " answered " + got + ", due is " + want);
+            fault(what + " answered " + got + ", due is " + want);
+        }
+    }
+
+    /** Two lists of what the face told, of which the second must be like the first. */
+    void same(String what, List<Integer> before, List<Integer> after) {
+        looked++;
+        if (!before.equals(after)) {
+            fault(what + ": the face told " + before + ", and then " + after);
         }
     }
 
@@ -37,12 +66,11 @@ final class Check {
         fails(what, "NoSuchElementException", call);
     }
 
-    private void fails(String what, String want, Call call) {
+    void fails(String what, String want, Call call) {
         looked++;
         String got = outcome(call);
         if (!got.equals(want)) {
-            wrong++;
-            System.out.println(what + ": " + got + ", due is " + want);
+            fault(what + ": " + got + ", due is " + want);
         }
     }
 
@@ -50,19 +78,15 @@ final class Check {
     static String outcome(Call call) {
         try {
             return Long.toString(call.run());
-        } catch (IllegalArgumentException e) {
-            return "IllegalArgumentException";
-        } catch (IllegalStateException e) {
-            return "IllegalStateException";
-        } catch (NoSuchElementException e) {
-            return "NoSuchElementException";
         } catch (RuntimeException e) {
-            return e.toString();
+            return e.getClass().getSimpleName();
         }
     }
 
     void end() {
-        System.out.println(looked + " answers looked at, " + wrong + " not as due");
+        endSentence();
+        System.out.println((sentences == 0 ? "" : sentences + " sentences, ")
+            + looked + " answers looked at, " + wrong + " not as due");
         if (wrong != 0 || looked == 0) {
             System.exit(1);
         }

@@ -10,42 +10,27 @@ public final class FullTest {
         CHECK.end();
     }
 
-    /** Rising keys 10, 20 ..: leaves of three entries but for the last one, which has two. */
-    private static Play leaves(int many) {
-        Play play = new Play();
-        for (int key = 1; key <= 3 * many - 1; key++) {
-            play.put(10 * key, key);
-        }
-        return play;
-    }
-
-    /** Splits the leaf of three entries that begins with a key. */
-    private static void splitLeaf(Play play, int first) {
-        play.put(first + 1, 1);
-        play.put(first + 2, 1);
-    }
-
     private static void putWithoutPage() {
-        Play play = leaves(16);
+        Play play = Trees.full();
         CHECK.due("all pages are used", play.freePages(), 0);
         CHECK.due("a leaf that has room", play.put(11, 5), -1);
         CHECK.due("now it is full", play.tree.page(0, 5), 4);
         play.begin(0, Play.PUT, 12, 6);
         CHECK.row("no split", play.steps(0, 6), 0, 0, 0, 0, 0, 2);
         CHECK.due("the answer", play.tree.answer(0), -2);
-        CHECK.row("nothing came in", play.entries(0), 10, 1, 11, 5, 20, 2, 30, 3);
+        CHECK.row("nothing came in", play.entries(0), 10, 100, 11, 5, 20, 200, 30, 300);
         CHECK.due("the leaf is unlocked", play.tree.page(0, 6), -1);
         CHECK.due("not there", play.find(12), -1);
-        CHECK.due("an old key is still changed", play.put(20, 7), 2);
+        CHECK.due("an old key is still changed", play.put(20, 7), 200);
         play.remove(11);
         CHECK.due("room again", play.put(12, 6), -1);
     }
 
     /** The 24th page goes to a leaf, and its parent is full. */
     private static void postWithoutPage() {
-        Play play = leaves(14);
+        Play play = Trees.leaves(14);
         CHECK.due("22 pages", play.freePages(), 2);
-        splitLeaf(play, 10);
+        Trees.splitLeaf(play, 10);
         CHECK.due("23 pages", play.freePages(), 1);
         play.put(5, 1);
         CHECK.row("the parent is full", play.page(2), 1, 1, -1, 90, 6, 4, -1);
@@ -58,25 +43,12 @@ public final class FullTest {
         CHECK.row("nothing is posted", play.entries(2), before);
         CHECK.due("the parent is unlocked", play.tree.page(2, 6), -1);
         CHECK.due("it came in", play.find(6), 44);
-        CHECK.due("upper keys are found by the right link", play.find(12), 1);
-    }
-
-    /** Four full nodes of level 1 under a full root of level 2, in 21 pages. */
-    private static Play fullInnerNodes() {
-        Play play = leaves(13);
-        CHECK.due("18 pages", play.freePages(), 6);
-        splitLeaf(play, 10);
-        splitLeaf(play, 100);
-        splitLeaf(play, 190);
-        CHECK.due("21 pages", play.freePages(), 3);
-        CHECK.due("the root has level 2", play.tree.page(play.tree.root(), 1), 2);
-        CHECK.due("and is full", play.tree.page(play.tree.root(), 5), 4);
-        return play;
+        CHECK.due("upper keys are found by the right link", play.find(12), 120);
     }
 
     /** The 24th page goes to a node of level 1, and the root above is full. */
     private static void postAboveWithoutPage() {
-        Play play = fullInnerNodes();
+        Play play = Trees.fullInnerNodes();
         int root = play.tree.root();
         play.put(131, 1);
         play.begin(0, Play.PUT, 132, 1);
@@ -98,7 +70,7 @@ public final class FullTest {
 
     /** The 24th page goes to the root's split. */
     private static void rootWithoutPage() {
-        Play play = fullInnerNodes();
+        Play play = Trees.fullInnerNodes();
         int root = play.tree.root();
         play.put(41, 1);
         play.begin(0, Play.PUT, 42, 77);
@@ -112,6 +84,6 @@ public final class FullTest {
         CHECK.due("the root is as it was", play.tree.root(), root);
         CHECK.due("with three entries", play.tree.page(root, 5), 3);
         CHECK.due("and a RIGHT", play.tree.page(play.tree.page(root, 4), 5), 2);
-        CHECK.due("found by the right link", play.find(380), 38);
+        CHECK.due("found by the right link", play.find(380), 3800);
     }
 }

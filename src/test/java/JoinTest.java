@@ -21,20 +21,6 @@ public final class JoinTest {
         CHECK.end();
     }
 
-    /** Leaves 0: 10 20 30, 1: 40 50 60, 3: 70 80 under root 2. */
-    private static Play threeLeaves() {
-        Play play = new Play();
-        play.putAll(10, 20, 30, 40, 50, 60, 70, 80);
-        return play;
-    }
-
-    /** Root 7 over 2 (leaves 0, 1, 3) and 6 (leaves 4: 100 110 120, 5: 130 140). */
-    private static Play threeLevels() {
-        Play play = new Play();
-        play.putAll(10, 20, 30, 40, 50, 60, 70, 80, 90, 100, 110, 120, 130, 140);
-        return play;
-    }
-
     private static void oneOfTwoAndRootDies() {
         Play play = new Play();
         play.putAll(10, 20, 30, 40, 50);
@@ -52,7 +38,7 @@ public final class JoinTest {
     }
 
     private static void lastWithTheOneBefore() {
-        Play play = threeLeaves();
+        Play play = Trees.threeLeaves();
         play.remove(80);
         CHECK.due("joined", play.join(), 1);
         CHECK.row("page 1", play.page(1), 1, 0, 30, 999, -1, 4, -1);
@@ -64,7 +50,7 @@ public final class JoinTest {
     }
 
     private static void middleWithTheNext() {
-        Play play = threeLeaves();
+        Play play = Trees.threeLeaves();
         play.remove(40);
         play.remove(50);
         CHECK.due("joined", play.join(), 1);
@@ -76,7 +62,7 @@ public final class JoinTest {
     }
 
     private static void shareToTheLeft() {
-        Play play = threeLeaves();
+        Play play = Trees.threeLeaves();
         play.putAll(41);
         play.remove(10);
         play.remove(20);
@@ -90,7 +76,7 @@ public final class JoinTest {
     }
 
     private static void shareToTheRight() {
-        Play five = threeLeaves();
+        Play five = Trees.threeLeaves();
         five.putAll(45);
         five.remove(80);
         CHECK.due("shared", five.join(), 1);
@@ -99,7 +85,7 @@ public final class JoinTest {
         CHECK.row("page 3", five.page(3), 1, 0, 50, 999, -1, 2, -1);
         CHECK.row("the root", five.entries(2), 30, 0, 50, 1, 999, 3);
 
-        Play six = threeLeaves();
+        Play six = Trees.threeLeaves();
         six.putAll(45);
         six.remove(80);
         six.begin(0, Play.JOIN, 0, 0);
@@ -111,7 +97,7 @@ public final class JoinTest {
 
     /** Both have become full since; only the border moves, down to the last key of A. */
     private static void shareOfFullLeaves() {
-        Play play = threeLeaves();
+        Play play = Trees.threeLeaves();
         play.remove(80);
         play.begin(0, Play.JOIN, 0, 0);
         play.putAll(75, 80, 85, 45);
@@ -124,7 +110,7 @@ public final class JoinTest {
     }
 
     private static void joinOfInnerNodes() {
-        Play play = threeLevels();
+        Play play = Trees.threeLevels();
         play.remove(70);
         play.remove(80);
         play.remove(40);
@@ -150,7 +136,7 @@ public final class JoinTest {
     }
 
     private static void shareOfInnerNodes() {
-        Play play = threeLevels();
+        Play play = Trees.threeLevels();
         play.putAll(15, 25);
         CHECK.row("page 2 has four entries", play.entries(2), 20, 0, 30, 8, 60, 1, 90, 3);
         play.remove(130);
@@ -167,7 +153,7 @@ public final class JoinTest {
 
     private static void blockedByLocks() {
         for (int key : new int[] {45, 75}) {
-            Play play = threeLeaves();
+            Play play = Trees.threeLeaves();
             play.remove(80);
             play.begin(0, Play.JOIN, 0, 0);
             play.begin(1, Play.PUT, key, 1);
@@ -182,7 +168,7 @@ public final class JoinTest {
             CHECK.due("with 1", play.tree.answer(0), 1);
             CHECK.due("P is unlocked", play.tree.page(2, 6), -1);
         }
-        Play other = threeLeaves();
+        Play other = Trees.threeLeaves();
         other.remove(80);
         other.begin(1, Play.PUT, 15, 1);
         other.steps(1, 3);
@@ -191,7 +177,7 @@ public final class JoinTest {
 
     /** Page 1 is locked and its HIGH is not its bound: blocked first, and then finished with 0. */
     private static void blockedBeforeHigh() {
-        Play play = threeLeaves();
+        Play play = Trees.threeLeaves();
         play.putAll(45);
         play.begin(1, Play.PUT, 55, 550);
         CHECK.row("page 1 splits", play.steps(1, 4), 0, 0, 0, 3);
@@ -207,7 +193,7 @@ public final class JoinTest {
     }
 
     private static void notItsBound() {
-        Play left = threeLeaves();
+        Play left = Trees.threeLeaves();
         left.putAll(45);
         left.begin(1, Play.PUT, 55, 550);
         left.steps(1, 4);
@@ -217,7 +203,7 @@ public final class JoinTest {
         CHECK.row("nothing has changed", left.entries(2), 30, 0, 60, 1, 999, 3);
         CHECK.due("P is unlocked", left.tree.page(2, 6), -1);
 
-        Play right = threeLeaves();
+        Play right = Trees.threeLeaves();
         right.putAll(90, 100);
         right.begin(1, Play.PUT, 110, 1100);
         right.steps(1, 4);
@@ -231,7 +217,7 @@ public final class JoinTest {
     }
 
     private static void pageDead() {
-        Play play = threeLeaves();
+        Play play = Trees.threeLeaves();
         play.remove(80);
         play.begin(0, Play.JOIN, 0, 0);
         play.remove(40);
@@ -269,7 +255,7 @@ public final class JoinTest {
     }
 
     private static void butOneEntry() {
-        Play play = threeLevels();
+        Play play = Trees.threeLevels();
         play.remove(130);
         CHECK.due("page 5 into page 4", play.join(), 1);
         CHECK.row("page 6 has one entry", play.entries(6), 999, 4);

@@ -29,7 +29,7 @@ public final class ModelTest {
     };
     private static int wrong;
 
-    private long state;
+    private final Dice dice;
     private final Play play = new Play();
     private final Model model;
     private final int run;
@@ -44,7 +44,7 @@ public final class ModelTest {
     private ModelTest(int run, Map<String, Integer> seen) {
         this.run = run;
         this.model = new Model(seen);
-        this.state = 88172645463325252L + 7919L * run;
+        this.dice = new Dice(run);
         this.keys = new int[] {12, 40, 200, 1000}[below(4)];
         this.order = below(4);
         this.haste = below(4);
@@ -53,10 +53,7 @@ public final class ModelTest {
     }
 
     private int below(int bound) {
-        state ^= state << 13;
-        state ^= state >>> 7;
-        state ^= state << 17;
-        return (int) Math.floorMod(state, (long) bound);
+        return dice.below(bound);
     }
 
     private int key() {
@@ -112,7 +109,7 @@ public final class ModelTest {
 
     private void step(int task) {
         calls.add("step(" + task + ")");
-        due("step(" + task + ")", play.tree.step(task), model.step(task));
+        due("step(" + task + ")", play.step(task), model.step(task));
         String want = model.tasks[task].finished == 0
             ? "NoSuchElementException" : Integer.toString(model.tasks[task].answer);
         String got = Check.outcome(() -> play.tree.answer(task));

@@ -1,5 +1,6 @@
 import java.util.ArrayList;
 import java.util.List;
+import java.util.NoSuchElementException;
 
 /** Short words for the runs of calls that the tests are made of. */
 final class Play {
@@ -12,16 +13,24 @@ final class Play {
     static final int HOLD = 2;
 
     final LinkTree tree = new LinkTree();
+    /** Which tasks have finished an operation. */
+    final boolean[] finished = new boolean[4];
 
     void begin(int task, int operation, int key, int value) {
         tree.begin(task, operation, key, value);
+    }
+
+    int step(int task) {
+        int answer = tree.step(task);
+        finished[task] |= answer == 2;
+        return answer;
     }
 
     /** Steps a task a number of times; the answers of the steps. */
     int[] steps(int task, int many) {
         int[] answers = new int[many];
         for (int k = 0; k < many; k++) {
-            answers[k] = tree.step(task);
+            answers[k] = step(task);
         }
         return answers;
     }
@@ -29,7 +38,7 @@ final class Play {
     /** Steps a task until it is finished; its answer. */
     int end(int task) {
         for (int k = 0; k < 400; k++) {
-            if (tree.step(task) == 2) {
+            if (step(task) == 2) {
                 return tree.answer(task);
             }
         }
@@ -126,6 +135,24 @@ final class Play {
             }
         }
         return all;
+    }
+
+    /** The same, and the answers of the tasks. */
+    List<Integer> everything() {
+        List<Integer> all = all();
+        for (int task = 0; task < 4; task++) {
+            addAnswer(all, task);
+        }
+        return all;
+    }
+
+    private void addAnswer(List<Integer> all, int task) {
+        try {
+            all.add(tree.answer(task));
+            all.add(1);
+        } catch (NoSuchElementException e) {
+            all.add(0);
+        }
     }
 
     private static void addRow(List<Integer> all, int[] row) {

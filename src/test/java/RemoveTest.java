@@ -52,10 +52,7 @@ public final class RemoveTest {
 
     /** Falling keys make leaves of two entries; a thirteenth small leaf is lost. */
     private static void fullQueue() {
-        Play play = new Play();
-        for (int key = 60; key > 30; key--) {
-            play.put(key, key);
-        }
+        Play play = Trees.fallingKeys();
         for (int many = 1; many <= 12; many++) {
             play.remove(61 - 2 * many);
             CHECK.due("small leaves", play.tree.queued(), many);
