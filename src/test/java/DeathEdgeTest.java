@@ -86,17 +86,17 @@ public final class DeathEdgeTest {
             play.end(0);
             kinds("is finished", play, 0);
         }
-        Play posting = readyToJoin();
+        Play posting = Trees.leaves(4);
         posting.putAll(11);
+        posting.remove(110);
         posting.begin(0, Play.PUT, 12, 120);
-        CHECK.row("it has come in", posting.steps(0, 4), 0, 0, 0, 3);
-        posting.begin(1, Play.FIND, 12, 0);
-        CHECK.due("still to post", posting.tree.look(0, 0), 0);
-        CHECK.due("not joined, as page 0 has split", posting.join(), 0);
-        posting.end(0);
-        posting.remove(40);
-        CHECK.due("page 1 into page 3", posting.join(), 1);
-        CHECK.due("task 1 was at work", posting.tree.page(1, 0), 2);
+        CHECK.row("it has come in, and is to post", posting.steps(0, 4), 0, 0, 0, 3);
+        CHECK.due("page 4 into page 3", posting.join(), 1);
+        CHECK.due("the PUT counts", posting.tree.page(4, 0), 2);
+        CHECK.row("to the parent", posting.steps(0, 2), 0, 0);
+        CHECK.due("the PUT counts", posting.tree.page(4, 0), 2);
+        CHECK.row("posted", posting.steps(0, 1), 2);
+        CHECK.due("it is finished", posting.tree.page(4, 0), 0);
     }
 
     private static void laterOperationsDoNotCount() {

@@ -207,6 +207,17 @@ public final class QueueEdgeTest {
         CHECK.due("in the ROOT", play.tree.queued(), 0);
         CHECK.due("none is left", play.remove(20), 200);
         CHECK.due("in the ROOT", play.tree.queued(), 0);
+
+        Play split = new Play();
+        split.putAll(10, 20, 30, 40);
+        split.begin(0, Play.PUT, 50, 500);
+        split.steps(0, 3);
+        CHECK.row("the ROOT has a RIGHT", split.page(0), 1, 0, -1, 30, 1, 3, -1);
+        split.remove(10);
+        split.remove(20);
+        CHECK.due("one is left in the ROOT", split.tree.queued(), 0);
+        split.remove(40);
+        CHECK.due("one is left in its RIGHT, which is not the ROOT", split.tree.queued(), 1);
     }
 
     /** What is the ROOT is asked when the entry goes, not when the operation begins. */

@@ -175,8 +175,12 @@ public final class RefusedTest {
             CHECK.due("entry " + many + " is there now", play.tree.entry(0, many, false), 10 * many + 10);
         }
         refusals(play).entry();
-        refusals(withDeadPages()).entry();
         refusals(atWork()).entry();
+        Play dead = withDeadPages();
+        refusals(dead).entry();
+        dead.end(0);
+        CHECK.due("the old root is free again", dead.tree.page(2, 0), 0);
+        refusals(dead).entry();
     }
 
     private static void underWhenItIsNoNode() {
@@ -187,6 +191,7 @@ public final class RefusedTest {
         CHECK.noElement("a DEAD leaf", () -> dead.tree.under(1));
         CHECK.noElement("a DEAD root", () -> dead.tree.under(2));
         dead.end(0);
+        refusals(dead).under();
         CHECK.noElement("a page that is free again", () -> dead.tree.under(2));
         CHECK.due("the root", dead.tree.under(0), 4);
     }
