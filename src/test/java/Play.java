@@ -1,6 +1,5 @@
 import java.util.ArrayList;
 import java.util.List;
-import java.util.NoSuchElementException;
 
 /** Short words for the runs of calls that the tests are made of. */
 final class Play {
@@ -12,9 +11,23 @@ final class Play {
     static final int LOCK = 1;
     static final int HOLD = 2;
 
-    final LinkTree tree = new LinkTree();
+    final Tree tree;
     /** Which tasks have finished an operation. */
-    final boolean[] finished = new boolean[4];
+    final boolean[] finished;
+
+    Play() {
+        this(new Tree(), new boolean[4]);
+    }
+
+    private Play(Tree tree, boolean[] finished) {
+        this.tree = tree;
+        this.finished = finished;
+    }
+
+    /** Another object in the same state. */
+    Play copy() {
+        return new Play(tree.copy(), finished.clone());
+    }
 
     void begin(int task, int operation, int key, int value) {
         tree.begin(task, operation, key, value);
@@ -147,11 +160,9 @@ final class Play {
     }
 
     private void addAnswer(List<Integer> all, int task) {
-        try {
+        all.add(finished[task] ? 1 : 0);
+        if (finished[task]) {
             all.add(tree.answer(task));
-            all.add(1);
-        } catch (NoSuchElementException e) {
-            all.add(0);
         }
     }
 

@@ -1,7 +1,13 @@
+import java.util.ArrayList;
 import java.util.List;
+import java.util.function.ToIntFunction;
 
-/** Every call that the document refuses in the state that a tree is in now. */
+/** The calls that the document refuses in the state that a tree is in. */
 final class Refusals {
+    /** A refused call, and what it must throw. */
+    record Refusal(String what, String exception, ToIntFunction<Tree> call) {
+    }
+
     static final int LEAST = Integer.MIN_VALUE;
     static final int MOST = Integer.MAX_VALUE;
     static final int[] WRONG_TASKS = {-1, 4, LEAST, MOST};
@@ -15,166 +21,162 @@ final class Refusals {
     private static final String STATE = "IllegalStateException";
     private static final String ELEMENT = "NoSuchElementException";
 
-    private final Check check;
     private final Play play;
-    /** Looks at everything after each call; otherwise the caller does, after all of them. */
-    private final boolean closely;
+    private final List<Refusal> found = new ArrayList<>();
 
-    Refusals(Check check, Play play, boolean closely) {
-        this.check = check;
+    private Refusals(Play play) {
         this.play = play;
-        this.closely = closely;
     }
 
-    void all() {
-        begin();
-        step();
-        answer();
-        look();
-        page();
-        entry();
-        under();
-    }
-
-    private void refused(String what, String exception, Check.Call call) {
-        List<Integer> before = closely ? play.everything() : null;
-        check.fails(what, exception, call);
-        if (closely) {
-            check.same("nothing has changed after " + what, before, play.everything());
+    /** The refused calls of one method of the face, by its name. */
+    static List<Refusal> of(String method, Play play) {
+        Refusals refusals = new Refusals(play);
+        switch (method) {
+            case "begin" -> refusals.begin();
+            case "step" -> refusals.step();
+            case "answer" -> refusals.answer();
+            case "look" -> refusals.look();
+            case "page" -> refusals.page();
+            case "entry" -> refusals.entry();
+            default -> refusals.under();
         }
+        return refusals.found;
     }
 
-    private void refusedBegin(String exception, int task, int operation, int key) {
-        String what = "begin(" + task + ", " + operation + ", " + key + ", 77)";
-        refused(what, exception, () -> {
-            play.tree.begin(task, operation, key, 77);
+    private void add(String what, String exception, ToIntFunction<Tree> call) {
+        found.add(new Refusal(what, exception, call));
+    }
+
+    private void addBegin(String exception, int task, int operation, int key) {
+        add("begin(" + task + ", " + operation + ", " + key + ", 77)", exception, tree -> {
+            tree.begin(task, operation, key, 77);
             return 0;
         });
     }
 
-    void begin() {
+    private void begin() {
         for (int task : WRONG_TASKS) {
             for (int operation = 0; operation < 4; operation++) {
-                refusedBegin(ARGUMENT, task, operation, 5);
+                addBegin(ARGUMENT, task, operation, 5);
             }
         }
         for (int task = 0; task < 4; task++) {
             for (int operation : WRONG_OPERATIONS) {
-                refusedBegin(ARGUMENT, task, operation, 5);
+                addBegin(ARGUMENT, task, operation, 5);
             }
             for (int key : WRONG_KEYS) {
                 for (int operation = 0; operation < 3; operation++) {
-                    refusedBegin(ARGUMENT, task, operation, key);
+                    addBegin(ARGUMENT, task, operation, key);
                 }
             }
             if (play.tree.look(task, 0) == 0) {
-                refuseBusy(task);
+                beginOfOneAtWork(task);
             }
         }
     }
 
-    private void refuseBusy(int task) {
+    private void beginOfOneAtWork(int task) {
         for (int operation = 0; operation < 4; operation++) {
-            refusedBegin(STATE, task, operation, 0);
-            refusedBegin(STATE, task, operation, 999);
+            addBegin(STATE, task, operation, 0);
+            addBegin(STATE, task, operation, 999);
         }
         for (int key : WRONG_KEYS) {
-            refusedBegin(STATE, task, Play.JOIN, key);
+            addBegin(STATE, task, Play.JOIN, key);
         }
     }
 
-    void step() {
+    private void step() {
         for (int task : WRONG_TASKS) {
-            refused("step(" + task + ")", ARGUMENT, () -> play.tree.step(task));
+            add("step(" + task + ")", ARGUMENT, tree -> tree.step(task));
         }
         for (int task = 0; task < 4; task++) {
             int number = task;
             if (play.tree.look(task, 0) == 1) {
-                refused("step(" + task + ") when it is idle", STATE, () -> play.tree.step(number));
+                add("step(" + task + ") when it is idle", STATE, tree -> tree.step(number));
             }
         }
     }
 
-    void answer() {
+    private void answer() {
         for (int task : WRONG_TASKS) {
-            refused("answer(" + task + ")", ARGUMENT, () -> play.tree.answer(task));
+            add("answer(" + task + ")", ARGUMENT, tree -> tree.answer(task));
         }
         for (int task = 0; task < 4; task++) {
             int number = task;
             if (!play.finished[task]) {
-                refused("answer(" + task + ") of none", ELEMENT, () -> play.tree.answer(number));
+                add("answer(" + task + ") of none", ELEMENT, tree -> tree.answer(number));
             }
         }
     }
 
-    void look() {
+    private void look() {
         for (int task : WRONG_TASKS) {
             for (int what = 0; what < 9; what++) {
-                refusedLook(task, what);
+                addLook(task, what);
             }
         }
         for (int what : WRONG_LOOKS) {
             for (int task = 0; task < 4; task++) {
-                refusedLook(task, what);
+                addLook(task, what);
             }
-            refusedLook(-1, what);
+            addLook(-1, what);
         }
     }
 
-    private void refusedLook(int task, int what) {
-        refused("look(" + task + ", " + what + ")", ARGUMENT, () -> play.tree.look(task, what));
+    private void addLook(int task, int what) {
+        add("look(" + task + ", " + what + ")", ARGUMENT, tree -> tree.look(task, what));
     }
 
-    void page() {
+    private void page() {
         for (int page : WRONG_PAGES) {
             for (int what = 0; what < 7; what++) {
-                refusedPage(page, what);
+                addPage(page, what);
             }
         }
         for (int what : WRONG_PAGE_LOOKS) {
             for (int page = 0; page < 24; page++) {
-                refusedPage(page, what);
+                addPage(page, what);
             }
-            refusedPage(24, what);
+            addPage(24, what);
         }
     }
 
-    private void refusedPage(int page, int what) {
-        refused("page(" + page + ", " + what + ")", ARGUMENT, () -> play.tree.page(page, what));
+    private void addPage(int page, int what) {
+        add("page(" + page + ", " + what + ")", ARGUMENT, tree -> tree.page(page, what));
     }
 
-    void entry() {
+    private void entry() {
         for (int page : WRONG_PAGES) {
-            refusedEntry(page, 0);
-            refusedEntry(page, -1);
-            refusedEntry(page, 4);
+            addEntry(page, 0);
+            addEntry(page, -1);
+            addEntry(page, 4);
         }
         for (int page = 0; page < 24; page++) {
             boolean isNode = play.tree.page(page, 0) == 1;
             int first = isNode ? play.tree.page(page, 5) : 0;
             for (int k = first; k < 6; k++) {
-                refusedEntry(page, k);
+                addEntry(page, k);
             }
-            refusedEntry(page, -1);
-            refusedEntry(page, LEAST);
-            refusedEntry(page, MOST);
+            addEntry(page, -1);
+            addEntry(page, LEAST);
+            addEntry(page, MOST);
         }
     }
 
-    private void refusedEntry(int page, int k) {
+    private void addEntry(int page, int k) {
         String what = "entry(" + page + ", " + k + ", ";
-        refused(what + "false)", ELEMENT, () -> play.tree.entry(page, k, false));
-        refused(what + "true)", ELEMENT, () -> play.tree.entry(page, k, true));
+        add(what + "false)", ELEMENT, tree -> tree.entry(page, k, false));
+        add(what + "true)", ELEMENT, tree -> tree.entry(page, k, true));
     }
 
-    void under() {
+    private void under() {
         for (int page : WRONG_PAGES) {
-            refused("under(" + page + ")", ELEMENT, () -> play.tree.under(page));
+            add("under(" + page + ")", ELEMENT, tree -> tree.under(page));
         }
         for (int page = 0; page < 24; page++) {
             int number = page;
             if (play.tree.page(page, 0) != 1) {
-                refused("under(" + page + ")", ELEMENT, () -> play.tree.under(number));
+                add("under(" + page + ")", ELEMENT, tree -> tree.under(number));
             }
         }
     }

@@ -6,6 +6,7 @@ import java.util.List;
  */
 public final class RefusedTest {
     private static final Check CHECK = new Check();
+    private static final String[] METHODS = {"begin", "step", "answer", "look", "page", "entry", "under"};
 
     public static void main(String[] args) {
         noSuchTaskOrOperation();
@@ -46,8 +47,20 @@ public final class RefusedTest {
         return play;
     }
 
-    private static Refusals refusals(Play play) {
-        return new Refusals(CHECK, play, true);
+    /** Makes each refused call of a method on an object of its own that is in the same state. */
+    private static void refused(String method, Play play) {
+        List<Integer> before = play.everything();
+        for (Refusals.Refusal refusal : Refusals.of(method, play)) {
+            Play other = play.copy();
+            CHECK.fails(refusal.what(), refusal.exception(), () -> refusal.call().applyAsInt(other.tree));
+            CHECK.same("nothing has changed after " + refusal.what(), before, other.everything());
+        }
+    }
+
+    private static void refusedAll(Play play) {
+        for (String method : METHODS) {
+            refused(method, play);
+        }
     }
 
     private static long begun(Play play, int task, int operation, int key) {
@@ -57,7 +70,7 @@ public final class RefusedTest {
 
     private static void noSuchTaskOrOperation() {
         CHECK.says("Throws IllegalArgumentException when there is no such task or operation");
-        refusals(new Play()).begin();
+        refused("begin", new Play());
         Play play = new Play();
         for (int task = 0; task < 4; task++) {
             int number = task;
@@ -67,7 +80,7 @@ public final class RefusedTest {
 
     private static void keyIsNot0To999() {
         CHECK.says("or key is not 0 .. 999");
-        refusals(atWork()).begin();
+        refused("begin", atWork());
         Play play = new Play();
         CHECK.fails("key 0", "0", () -> begun(play, 0, Play.FIND, 0));
         CHECK.fails("key 999", "0", () -> begun(play, 1, Play.FIND, 999));
@@ -94,7 +107,7 @@ public final class RefusedTest {
             play.begin(0, Play.PUT, 45, 450);
             play.steps(0, phase == Play.SEARCH ? 0 : phase + 1);
             CHECK.due("the phase", play.tree.look(0, 1), phase);
-            refusals(play).begin();
+            refused("begin", play);
             CHECK.due("the PUT ends", play.end(0), -1);
             CHECK.due("with its own value", play.find(45), 450);
             CHECK.due("no JOIN has taken the small page", play.tree.queued(), 1);
@@ -104,14 +117,14 @@ public final class RefusedTest {
 
     private static void stepNoSuchTask() {
         CHECK.says("Throws IllegalArgumentException when there is no such task");
-        refusals(new Play()).step();
-        refusals(atWork()).step();
+        refused("step", new Play());
+        refused("step", atWork());
     }
 
     private static void stepWhenItIsIdle() {
         CHECK.says("IllegalStateException when it is idle");
         Play play = atWork();
-        refusals(play).step();
+        refused("step", play);
         CHECK.fails("task 0 is not idle", "0", () -> play.step(0));
         play.end(0);
         CHECK.badState("task 0 is finished", () -> play.step(0));
@@ -121,8 +134,8 @@ public final class RefusedTest {
 
     private static void answerNoSuchTask() {
         CHECK.says("Throws IllegalArgumentException when there is no such task");
-        refusals(new Play()).answer();
-        refusals(atWork()).answer();
+        refused("answer", new Play());
+        refused("answer", atWork());
     }
 
     private static void answerFinishedNone() {
@@ -145,7 +158,7 @@ public final class RefusedTest {
     private static void lookNoSuchTaskOrWhat() {
         CHECK.says("Throws IllegalArgumentException when there is no such task or what");
         Play play = atWork();
-        refusals(play).look();
+        refused("look", play);
         for (int what = 0; what < 9; what++) {
             int number = what;
             CHECK.due("look(3, " + what + ") is one",
@@ -155,9 +168,9 @@ public final class RefusedTest {
 
     private static void pageNoSuchPageOrWhat() {
         CHECK.says("Throws IllegalArgumentException when there is no such page or what");
-        refusals(atWork()).page();
+        refused("page", atWork());
         Play dead = withDeadPages();
-        refusals(dead).page();
+        refused("page", dead);
         for (int what = 1; what < 7; what++) {
             CHECK.due("page(0, " + what + ") of a node", dead.tree.page(0, what),
                 new int[] {0, -1, 999, -1, 4, -1}[what - 1]);
@@ -170,58 +183,56 @@ public final class RefusedTest {
         CHECK.says("Throws NoSuchElementException when there is none");
         Play play = new Play();
         for (int many = 0; many < 4; many++) {
-            refusals(play).entry();
+            refused("entry", play);
             play.putAll(10 * many + 10);
             CHECK.due("entry " + many + " is there now", play.tree.entry(0, many, false), 10 * many + 10);
         }
-        refusals(play).entry();
-        refusals(atWork()).entry();
+        refused("entry", play);
+        refused("entry", atWork());
         Play dead = withDeadPages();
-        refusals(dead).entry();
+        refused("entry", dead);
         dead.end(0);
         CHECK.due("the old root is free again", dead.tree.page(2, 0), 0);
-        refusals(dead).entry();
+        refused("entry", dead);
     }
 
     private static void underWhenItIsNoNode() {
         CHECK.says("Throws NoSuchElementException when it is no node");
-        refusals(new Play()).under();
+        refused("under", new Play());
         Play dead = withDeadPages();
-        refusals(dead).under();
+        refused("under", dead);
         CHECK.noElement("a DEAD leaf", () -> dead.tree.under(1));
         CHECK.noElement("a DEAD root", () -> dead.tree.under(2));
         dead.end(0);
-        refusals(dead).under();
+        refused("under", dead);
         CHECK.noElement("a page that is free again", () -> dead.tree.under(2));
         CHECK.due("the root", dead.tree.under(0), 4);
     }
 
     private static void inManyStates() {
         CHECK.says("every exception of the promises, in many states");
-        refusals(new Play()).all();
-        refusals(atWork()).all();
-        refusals(withDeadPages()).all();
-        refusals(Trees.full()).all();
+        refusedAll(new Play());
+        refusedAll(atWork());
+        refusedAll(withDeadPages());
+        refusedAll(Trees.full());
         Play posting = Trees.full();
         posting.begin(2, Play.JOIN, 0, 0);
         posting.begin(0, Play.PUT, 11, 0);
         posting.steps(0, 5);
-        refusals(posting).all();
+        refusedAll(posting);
     }
 
-    /** Two objects do the same, and on one of them every refused call is made before each call. */
+    /** Two objects do the same, and one of them is called in vain before each call. */
     private static void asIfNotCalled() {
         CHECK.says("refused calls leave nothing behind that a later call shows");
-        for (int run = 0; run < 12; run++) {
+        for (int run = 0; run < 150; run++) {
             Play plain = new Play();
             Play pestered = new Play();
             Dice dice = new Dice(run);
-            Refusals refusals = new Refusals(CHECK, pestered, false);
-            for (int call = 0; call < 400; call++) {
-                refusals.all();
+            for (int call = 0; call < 250; call++) {
+                pester(plain, pestered, dice);
                 int task = dice.below(4);
-                String want = plain.tree.look(task, 0) == 1 ? "begin" : "step";
-                if (want.equals("begin")) {
+                if (plain.tree.look(task, 0) == 1) {
                     int operation = dice.of(0, 1, 1, 1, 2, 2, 3);
                     int key = dice.below(60);
                     plain.begin(task, operation, key, call);
@@ -229,9 +240,18 @@ public final class RefusedTest {
                 } else {
                     CHECK.due("step(" + task + ")", pestered.step(task), plain.step(task));
                 }
-                List<Integer> due = plain.everything();
-                CHECK.same("run " + run + " call " + call, due, pestered.everything());
+                if (call % 10 == 9) {
+                    CHECK.same("run " + run + " call " + call, plain.everything(), pestered.everything());
+                }
             }
+        }
+    }
+
+    private static void pester(Play plain, Play pestered, Dice dice) {
+        List<Refusals.Refusal> refusals = Refusals.of(METHODS[dice.of(0, 0, 0, 1, 2, 3, 4, 5, 6)], plain);
+        if (!refusals.isEmpty()) {
+            Refusals.Refusal refusal = refusals.get(dice.below(refusals.size()));
+            CHECK.fails(refusal.what(), refusal.exception(), () -> refusal.call().applyAsInt(pestered.tree));
         }
     }
 }
