@@ -1,7 +1,11 @@
 import java.util.List;
+import java.util.function.Supplier;
 
 /** Counts answers that are not due, prints each of them, and ends the test with exit code 1 if there was one. */
 final class Check {
+    /** So many faults tell enough. */
+    private static final int MANY = 50;
+
     /** A call of the face, written where its exception is looked at. */
     interface Call {
         long run();
@@ -30,12 +34,24 @@ final class Check {
     private void fault(String text) {
         wrong++;
         System.out.println(sentence.isEmpty() ? text : "\"" + sentence + "\": " + text);
+        if (wrong == MANY) {
+            System.out.println("there may be more");
+            System.exit(1);
+        }
     }
 
     void due(String what, long got, long want) {
         looked++;
         if (got != want) {
             fault(what + " answered " + got + ", due is " + want);
+        }
+    }
+
+    /** Something that must be so; the text is asked for only if it is not. */
+    void holds(boolean so, Supplier<String> otherwise) {
+        looked++;
+        if (!so) {
+            fault(otherwise.get());
         }
     }
 

@@ -8,9 +8,15 @@ import java.util.TreeSet;
 /** The public face of the document, and rule 1 of LANGUAGE.md: nothing beside it can be seen. */
 public final class FaceTest {
     private static final Set<String> METHODS = Set.of(
-        "void begin(int,int,int,int)", "int step(int)", "int answer(int)", "int look(int,int)",
-        "int page(int,int)", "int entry(int,int,boolean)", "int root()", "int queued()",
-        "int under(int)");
+        "void begin(int,int,int,int) IllegalArgumentException IllegalStateException",
+        "int step(int) IllegalArgumentException IllegalStateException",
+        "int answer(int) IllegalArgumentException NoSuchElementException",
+        "int look(int,int) IllegalArgumentException",
+        "int page(int,int) IllegalArgumentException",
+        "int entry(int,int,boolean) NoSuchElementException",
+        "int root()",
+        "int queued()",
+        "int under(int) NoSuchElementException");
     private static final Set<String> NAMES = Set.of(
         "begin", "step", "answer", "look", "page", "entry", "root", "queued", "under");
 
@@ -52,6 +58,10 @@ public final class FaceTest {
         for (Class<?> type : method.getParameterTypes()) {
             text.append(text.charAt(text.length() - 1) == '(' ? "" : ",").append(type.getName());
         }
-        return text.append(')').toString();
+        text.append(')');
+        for (Class<?> type : method.getExceptionTypes()) {
+            text.append(' ').append(type.getSimpleName());
+        }
+        return text.toString();
     }
 }

@@ -11,6 +11,29 @@ import java.util.TreeMap;
  * down which sentences of the document a run has come to.
  */
 final class Model {
+    /** Names of the sentences about steps and changes, as they are written down when they are come to. */
+    static final String[] SENTENCES = {
+        "join begins: queue empty", "join begins: page is root", "join begins: with a page",
+        "join without a page", "lock: blocked", "lock: NODE", "lock: DEAD", "search: dead",
+        "search: low not below", "search: right", "find: not there", "find: there",
+        "below wanted: join", "below wanted: restart", "below wanted: no free page",
+        "below wanted: new root", "hold: dead", "hold: low not below", "hold: right",
+        "a dead page becomes free later", "put: there", "put: no free page", "put: in", "put: split",
+        "post: no free page", "post: in", "post: split", "split: post by path",
+        "split: post from root", "remove: not there", "remove: small root", "queue: already in it",
+        "join: page dead", "join: no child", "join: but one entry",
+        "join: page is last", "join: page is not last", "join: A locked", "join: B locked",
+        "join: A's HIGH", "join: B's HIGH", "join: one of two leaves", "join: one of two inner nodes",
+        "join: share 5 of leaves to the left", "join: share 5 of leaves to the right",
+        "join: share 6 of leaves to the left", "join: share 6 of leaves to the right",
+        "join: share 7 of leaves to the same", "join: share 8 of leaves to the same",
+        "join: share 5 of inner nodes to the left", "join: share 5 of inner nodes to the right",
+        "join: root dies", "join: P queued",
+        "dies: out of the queue", "dies: FREE", "dies: DEAD"
+    };
+    /** Two more, which a run of drawn calls seldom comes to. */
+    static final String[] RARE_SENTENCES = {"queue: lost", "join: root with RIGHT queued"};
+
     static final class Page {
         final int number;
         Page(int number) {
@@ -55,7 +78,7 @@ final class Model {
     final List<Integer> queue = new ArrayList<>();
     int root = 0;
     /** How often a sentence has been come to, over all models that share this map. */
-    final Map<String, Integer> seen;
+    Map<String, Integer> seen;
 
     Model(Map<String, Integer> seen) {
         this.seen = seen;
@@ -483,5 +506,44 @@ final class Model {
             }
         }
         return all;
+    }
+
+    /** The same, and the answers of the tasks, in the order of Play.everything(). */
+    List<Integer> everything() {
+        List<Integer> all = all();
+        for (Task t : tasks) {
+            all.add(t.finished > 0 ? 1 : 0);
+            if (t.finished > 0) {
+                all.add(t.answer);
+            }
+        }
+        return all;
+    }
+
+    /** All that a later call may depend on, as a text: two models with one text go on alike. */
+    String state() {
+        StringBuilder text = new StringBuilder("root " + root + " queue " + queue);
+        for (Page p : pages) {
+            text.append("\n").append(p.kind);
+            if (p.kind.equals("NODE")) {
+                text.append(" ").append(p.level).append(" ").append(p.low).append(" ").append(p.high)
+                    .append(" ").append(p.right).append(" ").append(p.entries);
+            }
+            text.append(" ").append(p.lockedBy);
+            if (p.kind.equals("DEAD")) {
+                for (int[] pair : p.waitsFor) {
+                    text.append(" ").append(pair[0]).append(":").append(pair[1]);
+                }
+            }
+        }
+        for (Task t : tasks) {
+            text.append("\n").append(t.does);
+            if (!t.does.equals("IDLE")) {
+                text.append(" ").append(t.phase).append(" ").append(t.place).append(" ").append(t.seeks)
+                    .append(" ").append(t.value).append(" ").append(t.wants).append(" ").append(t.path)
+                    .append(" ").append(t.pageToJoin).append(" ").append(t.pageToPost);
+            }
+        }
+        return text.toString();
     }
 }

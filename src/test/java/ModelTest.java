@@ -5,29 +5,10 @@ import java.util.Map;
 /**
  * Promises 1 to 10 together: many runs of begins and steps, whose answers are compared with the
  * model's. At many points everything that the face tells is compared too, and the tree's shape is
- * looked at. Every sentence of the document must have been come to, but for two that are rare and
- * have tests of their own (QueueEdgeTest, JoinEdgeTest).
+ * looked at. Every sentence of the document must have been come to, but for two that are rare; those
+ * are come to in OrdersTest.
  */
 public final class ModelTest {
-    private static final String[] SENTENCES = {
-        "join begins: queue empty", "join begins: page is root", "join begins: with a page",
-        "join without a page", "lock: blocked", "lock: NODE", "lock: DEAD", "search: dead",
-        "search: low not below", "search: right", "find: not there", "find: there",
-        "below wanted: join", "below wanted: restart", "below wanted: no free page",
-        "below wanted: new root", "hold: dead", "hold: low not below", "hold: right",
-        "a dead page becomes free later", "put: there", "put: no free page", "put: in", "put: split",
-        "post: no free page", "post: in", "post: split", "split: post by path",
-        "split: post from root", "remove: not there", "remove: small root", "queue: already in it",
-        "join: page dead", "join: no child", "join: but one entry",
-        "join: page is last", "join: page is not last", "join: A locked", "join: B locked",
-        "join: A's HIGH", "join: B's HIGH", "join: one of two leaves", "join: one of two inner nodes",
-        "join: share 5 of leaves to the left", "join: share 5 of leaves to the right",
-        "join: share 6 of leaves to the left", "join: share 6 of leaves to the right",
-        "join: share 7 of leaves to the same", "join: share 8 of leaves to the same",
-        "join: share 5 of inner nodes to the left", "join: share 5 of inner nodes to the right",
-        "join: root dies", "join: P queued",
-        "dies: out of the queue", "dies: FREE", "dies: DEAD"
-    };
     /** Begins and steps of a run; the other calls of the 512 are for looking at the object. */
     private static final int CHANGES = 500;
     private static int wrong;
@@ -150,7 +131,7 @@ public final class ModelTest {
         for (int run = 0; run < runs && wrong == 0; run++) {
             new ModelTest(run, seen).go();
         }
-        for (String sentence : SENTENCES) {
+        for (String sentence : Model.SENTENCES) {
             if (!seen.containsKey(sentence)) {
                 wrong++;
                 System.out.println("no run has come to: " + sentence);

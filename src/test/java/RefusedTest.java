@@ -210,7 +210,7 @@ public final class RefusedTest {
     }
 
     private static void inManyStates() {
-        CHECK.says("every exception of the promises, in many states");
+        CHECK.says("Throws IllegalArgumentException when there is no such task");
         refusedAll(new Play());
         refusedAll(atWork());
         refusedAll(withDeadPages());
@@ -224,7 +224,7 @@ public final class RefusedTest {
 
     /** Two objects do the same, and one of them is called in vain before each call. */
     private static void asIfNotCalled() {
-        CHECK.says("refused calls leave nothing behind that a later call shows");
+        CHECK.says("Nothing is promised beyond the answers and state changes described above");
         for (int run = 0; run < 150; run++) {
             Play plain = new Play();
             Play pestered = new Play();
